@@ -218,22 +218,6 @@ public final class PromisesTest {
         due(7, "FULL", x.solve(0, seed + 1), FULL);
     }
 
-    private static boolean sameMarks(SieveCabinet x, int s, long t, long u) {
-        for (int j = 0; j < 3; j++) {
-            boolean found = false;
-            for (int k = 0; k < 3; k++) found |= x.mark(s, t, j) == x.mark(s, u, k);
-            if (!found) return false;
-        }
-        return true;
-    }
-
-    /** Layers of one thing have 8 bits: helpers 0 .. 2 of that size tell marks by the seeds of the layers. */
-    private static SieveCabinet withHelpers(int seed) {
-        SieveCabinet x = new SieveCabinet();
-        for (int i = 0; i < 3; i++) x.make(0, 8, 3, seed + i);
-        return x;
-    }
-
     private static void p8Layered() {
         SieveCabinet x = new SieveCabinet();
         x.span(0, 1, 7, 60);
@@ -269,43 +253,40 @@ public final class PromisesTest {
 
     /** One thing in, one rival that passes layer 0; the rest is asked by how layer 1 takes the first. */
     private static void p8Two(int seed) {
-        SieveCabinet x = withHelpers(seed);
+        SieveCabinet x = new SieveCabinet();
         long in = 1000;
         long ends = 0, rests = 0;
         for (long t = 0; ends == 0 || rests == 0; t++) {
-            if (t == in || !sameMarks(x, 0, in, t)) continue;
-            if (sameMarks(x, 1, in, t)) rests = t; else ends = t;
+            if (t == in || !Crafted.fits(t, seed, 8, in)) continue;
+            if (Crafted.fits(in, seed + 1, 8, t)) rests = t; else ends = t;
         }
         x.span(0, in, 0, 1);
         x.span(1, ends, 0, 1);
         x.span(2, rests, 0, 1);
-        due(8, "two layers", x.layered(0, 1, seed), 3);
-        due(8, "two layers: how many", x.about(3, 1), 2);
-        due(8, "two layers: REST", x.about(3, 6), 0);
-        due(8, "two layers: WEIGHT", x.about(3, 5), 16);
-        due(8, "two layers: the one", x.lets(3, in), 1);
-        due(8, "two layers: the rival", x.lets(3, ends), 0);
-        due(8, "two layers and a REST", x.layered(0, 2, seed), 4);
-        due(8, "even REST: layers", x.about(4, 1), 2);
-        due(8, "even REST: how many", x.about(4, 6), 1);
-        due(8, "even REST: WEIGHT", x.about(4, 5), 16 + 64);
-        due(8, "even REST: in it", x.lets(4, in), 1);
-        due(8, "even REST: not in it", x.lets(4, rests), 0);
+        due(8, "two layers", x.layered(0, 1, seed), 0);
+        due(8, "two layers: how many", x.about(0, 1), 2);
+        due(8, "two layers: REST", x.about(0, 6), 0);
+        due(8, "two layers: WEIGHT", x.about(0, 5), 16);
+        due(8, "two layers: the one", x.lets(0, in), 1);
+        due(8, "two layers: the rival", x.lets(0, ends), 0);
+        due(8, "two layers and a REST", x.layered(0, 2, seed), 1);
+        due(8, "even REST: layers", x.about(1, 1), 2);
+        due(8, "even REST: how many", x.about(1, 6), 1);
+        due(8, "even REST: WEIGHT", x.about(1, 5), 16 + 64);
+        due(8, "even REST: in it", x.lets(1, in), 1);
+        due(8, "even REST: not in it", x.lets(1, rests), 0);
         x.remove();
-        due(8, "in the place of one with a REST", x.layered(0, 1, seed), 4);
-        due(8, "it has none", x.about(4, 6), 0);
+        due(8, "in the place of one with a REST", x.layered(0, 1, seed), 1);
+        due(8, "it has none", x.about(1, 6), 0);
     }
 
     /** Two in, a rival that passes; one of the two passes layer 1; the rival passes layer 2: REST behind three. */
     private static void p8OddRest() {
         int seed = -2;
         long a = 3, b = 4;
-        SieveCabinet x = withHelpers(seed);
-        x.make(0, 16, 3, seed);
-        x.put(3, a);
-        x.put(3, b);
         long t = 5;
-        while (x.lets(3, t) == 0 || !sameMarks(x, 1, t, a) || sameMarks(x, 1, t, b) || !sameMarks(x, 2, a, t)) t++;
+        while (!Crafted.fits(t, seed, 16, a, b) || !Crafted.fits(a, seed + 1, 8, t)
+            || Crafted.fits(b, seed + 1, 8, t) || !Crafted.fits(t, seed + 2, 8, a)) t++;
         SieveCabinet y = new SieveCabinet();
         y.span(0, a, 1, 2);
         y.span(1, t, 0, 1);

@@ -17,7 +17,7 @@ public final class RoomTest {
         int calls = 2;
         for (int i = 0; i < 30; i++, calls++) x.layered(0, 1, i);
         for (int i = 0; i < 30; i++, calls++) x.remove();
-        for (int i = 0; calls < 512; i++, calls += 6) {
+        for (int i = 0; calls + 9 <= 512; i++, calls += 9) {
             x.make(i % 3, 256, 8, i);
             x.putAll(x.sieves() - 1, 1);
             x.solve(1, i);
