@@ -1099,7 +1099,7 @@ public final class SieveCabinet {
         int choose(int most) {
             int fewestFalses = MOST_THINGS + 1;
             int choice = 0;
-            for (int size = LEAST_SIZE; size <= most; size *= 2) {
+            for (int size = LEAST_SIZE; size <= most && size <= MOST_SIZE; size *= 2) {
                 bits.begin(size);
                 for (int marks = 1; marks <= MOST_MARKS; marks++) {
                     setMark(marks - 1, size);

@@ -9,7 +9,7 @@ import java.util.Arrays;
 import java.util.Set;
 import java.util.TreeSet;
 
-/** The public face, word by word, and what the language's rules forbid in the file. */
+/** The public face, word by word, and what the language's rules forbid or limit in the file. */
 public final class FaceTest {
     private static final String[] FACE = {"int span(int, long, int, int)", "int take(int, long)", "int things(int)",
         "long thing(int, int)", "int make(int, int, int, int)", "int solve(int, int)", "int layered(int, int, int)",
@@ -82,11 +82,47 @@ public final class FaceTest {
         }
     }
 
+    /** What the rules on static fields, parameters, fields and classes let be counted. */
+    private static void limits() {
+        Set<Class<?>> plain = Set.of(int.class, long.class, boolean.class, char.class, String.class);
+        Class<?>[] inside = SieveCabinet.class.getDeclaredClasses();
+        due("some twelve classes at most", inside.length <= 12);
+        for (int i = -1; i < inside.length; i++) {
+            Class<?> c = i < 0 ? SieveCabinet.class : inside[i];
+            due(c + " has no classes of its own", i < 0 || c.getDeclaredClasses().length == 0);
+            int own = 0;
+            for (Field f : c.getDeclaredFields()) {
+                boolean isStatic = Modifier.isStatic(f.getModifiers());
+                if (!isStatic) own++;
+                else due(f + " is a constant", Modifier.isFinal(f.getModifiers()) && plain.contains(f.getType()));
+            }
+            due(c + " has some twenty fields at most", own <= 20);
+            for (Method m : c.getDeclaredMethods()) due(m + " takes seven at most", m.getParameterCount() <= 7);
+        }
+    }
+
+    /** A method's first line stands at 4 or 8 blanks and ends with '{', its last is '}' at as many. */
+    private static void lengths() throws IOException {
+        String[] lines = Files.readString(Path.of("src/main/java/SieveCabinet.java")).split("\n");
+        int methods = 0;
+        for (int i = 0; i < lines.length; i++) {
+            String blanks = lines[i].replaceAll("\\S.*", "");
+            if (!lines[i].matches(" {4}( {4})?\\w.*\\) \\{")) continue;
+            int end = i;
+            while (end < lines.length && !lines[end].equals(blanks + "}")) end++;
+            due("some sixty lines at most: " + lines[i].trim(), end - i < 60);
+            methods++;
+        }
+        due("methods were found", methods > FACE.length);
+    }
+
     public static void main(String[] args) throws Exception {
         classItself();
         methods();
         fields();
         words();
+        limits();
+        lengths();
         System.out.println(wrong == 0 ? "the face is as due" : wrong + " things are not as due");
         if (wrong != 0) System.exit(1);
     }
